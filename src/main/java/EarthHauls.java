@@ -561,7 +561,8 @@ public final class EarthHauls {
     private static final class Network {
         private static final int OUTSIDE = SOURCES + SINKS;
         private static final int NODES = OUTSIDE + 1;
-        private static final int MOST_EDGES = 2 * (SOURCES * SINKS + YARDS + 2 * MOST_SPANS);
+        private static final int SHORTAGE_EDGES = 4 * MOST_SPANS;
+        private static final int MOST_EDGES = 2 * (SOURCES * SINKS + YARDS) + SHORTAGE_EDGES;
         private static final int UNLIMITED = 1000000000;
         private static final int MOST_TURNS = 1000000;
 
@@ -585,6 +586,7 @@ public final class EarthHauls {
 
         // Shortages let every litre go or come at a weight that any real way undercuts;
         // so the flow is never stuck half way, and what is short at the end tells that there is no plan.
+        // They are joined first, so that isShort finds them as the first edges.
         void empty() {
             edges = 0;
             Arrays.fill(haulEdge, NONE);
@@ -617,7 +619,7 @@ public final class EarthHauls {
         }
 
         boolean isShort() {
-            for (int edge = 0; edge < 4 * MOST_SPANS; edge += 2) {
+            for (int edge = 0; edge < SHORTAGE_EDGES; edge += 2) {
                 if (room[edge + 1] > 0) {
                     return true;
                 }
