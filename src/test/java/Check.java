@@ -28,6 +28,14 @@ final class Check {
         }
     }
 
+    static void dueThrowsNothing(String what, Deed deed) {
+        String got = thrownBy(deed);
+        if (!got.equals("nothing")) {
+            wrong++;
+            System.out.println(what + " threw " + got + ", due is nothing");
+        }
+    }
+
     static void dueSame(String what, String got, String want) {
         if (!got.equals(want)) {
             wrong++;

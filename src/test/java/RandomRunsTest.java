@@ -4,12 +4,15 @@ import java.util.Random;
 final class RandomRunsTest {
     private static final int RUNS = 400;
     private static final int CALLS = 120;
+    private static final int MOST_CALLS = 512;
+    private static final int LONGEST_STEP = 33;
 
     private final Random random;
     private final int size;
-    private EarthHauls x = new EarthHauls();
+    private final EarthHauls x = new EarthHauls();
     private final Model model = new Model();
     private final StringBuilder told = new StringBuilder();
+    private int calls = 0;
 
     private RandomRunsTest(long seed) {
         random = new Random(seed);
@@ -25,8 +28,12 @@ final class RandomRunsTest {
     }
 
     private void play(int run) {
-        for (int i = 0; i < CALLS && !Check.isWrong(); i++) {
+        int most = run % 10 == 0 ? MOST_CALLS : CALLS;
+        while (calls + LONGEST_STEP <= most && !Check.isWrong()) {
             step();
+        }
+        while (calls < most && !Check.isWrong()) {
+            callState();
         }
         if (Check.isWrong()) {
             System.out.println("run " + run + " was:" + told);
@@ -34,6 +41,7 @@ final class RandomRunsTest {
     }
 
     private void same(String what, Check.Call got, Check.Call want) {
+        calls++;
         String answer = Check.told(got);
         told.append("\n  ").append(what).append(" = ").append(answer);
         Check.dueSame(what, answer, Check.told(want));
