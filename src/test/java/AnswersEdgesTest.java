@@ -11,14 +11,17 @@ final class AnswersEdgesTest {
     public static void main(String[] args) {
         balanceOfFewStations();
         balanceAtZeroAndNextToIt();
+        balanceFromNextToZero();
         balanceStaysOnOneSide();
         costNoneAndZero();
         solveNoneAndZero();
+        solveNoneForOneSpan();
         hauledZero();
         moreThatIsOrdinaryMinusOne();
         moreThatIsZero();
         moreWithNoPlanNow();
         moreWithNoPlanThen();
+        moreWithNoPlanThenThoughLessIsHauled();
         moreWithAPlanOnlyThen();
         moreChangesNothing();
         judgeNone();
@@ -102,6 +105,23 @@ final class AnswersEdgesTest {
         dueBalance("0, 20, 10:", over, 0);
     }
 
+    private static void balanceFromNextToZero() {
+        EarthHauls down = new EarthHauls();
+        down.station(0, 2, 0, -1, 101);
+        down.station(2, 2, 0, -1, 101);
+        down.station(1, 0, 0, -3, 101);
+        down.set(0, 550);
+        Check.due("just over 0", down.curve(1), 1);
+        dueBalance("0, 1, -7:", down, 0, 2);
+        EarthHauls up = new EarthHauls();
+        up.station(0, 1, 0, -1, 101);
+        up.station(2, 1, 0, -1, 101);
+        up.station(1, 10, 10, 10, 101);
+        up.set(0, 999);
+        Check.due("just below 0", up.curve(1), -1);
+        dueBalance("0, -1, 98:", up, 0, 2);
+    }
+
     private static void balanceStaysOnOneSide() {
         // From 0 to a side is no change of sides, and neither is more or less on one side.
         dueBalance("0, 10, 0, -10, -20:", flatRoad(101, new int[] {1, 1, 1, 1}, 1, 0, -1, 0, -1), 0, 2);
@@ -158,6 +178,26 @@ final class AnswersEdgesTest {
         Check.due("a dump does not give it", fill.solve(), NONE);
         fill.beside(1, 0, MOST, 0);
         Check.due("a pit gives it for nothing", fill.solve(), 0);
+    }
+
+    /** All borders are closed, and all that is short or left over is so in one span. */
+    private static void solveNoneForOneSpan() {
+        for (int span = 0; span < 4; span++) {
+            for (int sign : new int[] {1, -1}) {
+                int[] heights = new int[5];
+                int high = span < 3 ? span : 4;
+                heights[high] = sign;
+                EarthHauls x = flatRoad(101, new int[] {1, 1, 1, 1}, heights);
+                for (int k = 0; k < 3; k++) {
+                    x.border(k, true);
+                }
+                int which = sign > 0 ? 2 : 0;
+                x.beside(which, span == 0 || span == 3 ? 1 : span - 1, MOST, 1);
+                Check.due("span " + span + " alone", x.solve(), NONE);
+                x.beside(which, span, MOST, 1);
+                Check.due("beside span " + span, x.solve(), span == 0 || span == 3 ? 10 : NONE);
+            }
+        }
     }
 
     private static void dueHauledNothing(String when, EarthHauls x) {
@@ -236,6 +276,17 @@ final class AnswersEdgesTest {
         Check.due("nor to the dump behind it", x.more(0, true), NONE);
         Check.due("on this side of it", x.more(0, false), 5);
         Check.due("and on that", x.more(1, true), 6);
+    }
+
+    private static void moreWithNoPlanThenThoughLessIsHauled() {
+        // A litre more beside the other end would spare its whole way, but then one is left over or missing.
+        EarthHauls x = flatRoad(1010, new int[] {100, 100, 100}, 40, 0, 0, -40);
+        x.set(1, 100);
+        Check.due("a plan now", x.solve(), 400000L * 40000);
+        for (int span = 0; span < 3; span++) {
+            Check.due("none with more fill of span " + span, x.more(span, false), NONE);
+            Check.due("none with more cut of span " + span, x.more(span, true), NONE);
+        }
     }
 
     private static void moreWithAPlanOnlyThen() {
