@@ -12,6 +12,7 @@ final class PromisesTest {
 
     public static void main(String[] args) {
         promise1NewObject();
+        promise1EachByItself();
         promise2Clear();
         promise3Station();
         promise3WrongStations();
@@ -36,7 +37,6 @@ final class PromisesTest {
         promise17Worth();
         promise18Excess();
         promise19Count();
-        readmeExample();
         Check.end();
     }
 
@@ -98,6 +98,31 @@ final class PromisesTest {
         Check.due("NONE", NONE, -1);
         dueAsNew("new:", new EarthHauls());
         dueSettingsOfNew("new:", new EarthHauls());
+    }
+
+    /** What is done to one object is not seen in another, made before or after. */
+    private static void promise1EachByItself() {
+        EarthHauls before = new EarthHauls();
+        EarthHauls x = fourSpans();
+        x.set(0, 500);
+        x.set(1, 9);
+        x.border(1, true);
+        x.beside(0, 1, 5, 6);
+        x.beside(2, 0, 5, 6);
+        x.lay(0, 1, 77);
+        x.solve();
+        EarthHauls after = new EarthHauls();
+        dueAsNew("made before another:", before);
+        dueAsNew("made after another:", after);
+        dueSettingsOfNew("made before another:", before);
+        dueSettingsOfNew("made after another:", after);
+        after.clear();
+        Check.due("the other one stays", x.count(0), 5);
+        Check.due("its shrink stays", x.litres(0, 2), 30000);
+        Check.due("its rate stays", x.cost(0, 1), 9 * 30);
+        Check.due("its border stays", x.count(1), 2);
+        Check.due("its pit stays", x.count(2), 1);
+        Check.due("what is laid stays", x.worth(), 77 * 9 * 30);
     }
 
     private static void promise2Clear() {
@@ -706,17 +731,5 @@ final class PromisesTest {
         for (int what : new int[] {-1, 5, BIG, SMALL}) {
             Check.dueThrow("count(" + what + ")", ARGUMENT, () -> x.count(what));
         }
-    }
-
-    private static void readmeExample() {
-        EarthHauls road = new EarthHauls();
-        road.station(0, 50, 50, 50, 1010);
-        road.station(10, 50, 50, 50, 1010);
-        road.station(20, -30, -30, -30, 1010);
-        road.set(0, 800);
-        road.beside(2, 0, 100000, 3);
-        Check.due("README: solve()", road.solve(), 900000);
-        Check.due("README: hauled(0, 4)", road.hauled(0, 4), 80000);
-        Check.due("README: more(1, false)", road.more(1, false), -33);
     }
 }
